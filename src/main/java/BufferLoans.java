@@ -432,7 +432,7 @@ public final class BufferLoans {
             return NONE;
         }
         int best = NONE;
-        // days left are never below 0
+        // below all days left, which are never below 0
         int most = -1;
         for (int rule = 0; rule <= greatestValue(RULE); rule++) {
             trial.copyFrom(desk);
@@ -528,15 +528,15 @@ public final class BufferLoans {
 
         // the rows behind it move up by one
         void removeRow(int row) {
-            for (int index = Math.max(0, row * columns); index < cells.length - columns; index++) {
+            for (int index = row * columns; index >= 0 && index < cells.length - columns; index++) {
                 cells[index] = cells[index + columns];
             }
         }
 
         // the row and those behind it move down by one, the last one out of the table
         void insertRow(int row) {
-            int first = Math.max(0, row * columns);
-            for (int index = cells.length - 1; index >= first + columns; index--) {
+            int behind = (row + 1) * columns;
+            for (int index = cells.length - 1; index >= behind && index >= columns; index--) {
                 cells[index] = cells[index - columns];
             }
         }
@@ -665,11 +665,13 @@ public final class BufferLoans {
             return delay;
         }
 
+        // of the open projects; NONE if none is open
         int leastDaysLeft() {
-            int least = Integer.MAX_VALUE;
+            int least = NONE;
             for (int project = 0; project < projectCount; project++) {
-                if (isOpen(project)) {
-                    least = Math.min(least, projects.get(project, LEFT));
+                int left = projects.get(project, LEFT);
+                if (isOpen(project) && (least == NONE || left < least)) {
+                    least = left;
                 }
             }
             return least;
@@ -896,14 +898,12 @@ public final class BufferLoans {
 
         int weakestProject() {
             int weakest = NONE;
-            int least = 0;
+            int least = NONE;
             for (int project = 0; project < projectCount; project++) {
-                if (isOpen(project)) {
-                    int bearable = bearableDelay(project);
-                    if (weakest == NONE || bearable < least) {
-                        weakest = project;
-                        least = bearable;
-                    }
+                int bearable = bearableDelay(project);
+                if (isOpen(project) && (weakest == NONE || bearable < least)) {
+                    weakest = project;
+                    least = bearable;
                 }
             }
             return weakest;
