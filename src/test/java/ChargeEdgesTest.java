@@ -25,15 +25,19 @@ public final class ChargeEdgesTest {
         fewerDaysThanPlanned();
         mostDaysSpared();
         spareDaysPaidBack();
+        sparedWithNothingLeft();
+        sparedAmongOthers();
         ownDays();
         daysCalledBack();
         borrowerWithFewerDays();
         callsOnlyWhereItLends();
+        calledAmongOthers();
         daysBorrowed();
         borrowedOnAnOldLoan();
         borrowedFromOpenOnes();
         shareAhead();
         shareOfSeveralLoans();
+        aheadAmongOthers();
         aheadAtMostWhatItOwes();
         aheadOfAnotherTaskOnly();
         aheadBehindADelay();
@@ -175,6 +179,96 @@ public final class ChargeEdgesTest {
             EDGES.row("days", Looks.days(x, 0), 7 + spared - paid, -spared, 7 - paid, 0, 0, 0, 0);
             EDGES.same("left of the first lender", x.project(1, 2), 6 + Math.min(paid, 3));
             EDGES.same("left of the second lender", x.project(2, 2), 5 + Math.max(0, paid - 3));
+        }
+    }
+
+    private static void sparedWithNothingLeft() {
+        EDGES.about(BACK_FROM_SPARED);
+        for (int spared = 0; spared <= 7; spared++) {
+            // all days are used, and 5 are borrowed
+            BufferLoans x = Checks.desk("5:0:10+10;5:20:1");
+            x.done(0, 15);
+            EDGES.same("late days", x.done(0, 10 - spared), 0);
+            int paid = Math.min(spared, 5);
+            EDGES.same("owed with " + spared + " spared", x.owed(0, 1), 5 - paid);
+            EDGES.row("days", Looks.days(x, 0), spared - paid, 5 - spared, 5 - paid, 0, 0, 0, 0);
+            EDGES.row("lender", Looks.days(x, 1), 15 + paid, 0, 0, 5 - paid, 0, 0, 0);
+        }
+    }
+
+    // project 0 has 4 days left, owes 2 and 3, and is owed 1; other loans stand ahead and between
+    private static BufferLoans owingAmongOthers(String first) {
+        BufferLoans x = Checks.desk(first + ";5:20:1;5:20:1;5:20:1");
+        x.lend(3, 2, 1);
+        x.lend(1, 0, 2);
+        x.lend(0, 3, 1);
+        x.lend(2, 0, 3);
+        x.lend(3, 1, 2);
+        return x;
+    }
+
+    private static final long[][] PAID_AMONG_OTHERS = {
+        {3, 2, 1, 1, 0, 2, 0, 3, 1, 2, 0, 3, 3, 1, 2},
+        {3, 2, 1, 1, 0, 1, 0, 3, 1, 2, 0, 3, 3, 1, 2},
+        {3, 2, 1, 0, 3, 1, 2, 0, 3, 3, 1, 2},
+        {3, 2, 1, 0, 3, 1, 2, 0, 2, 3, 1, 2},
+        {3, 2, 1, 0, 3, 1, 2, 0, 1, 3, 1, 2},
+        {3, 2, 1, 0, 3, 1, 3, 1, 2},
+    };
+
+    private static void sparedAmongOthers() {
+        EDGES.about(BACK_FROM_SPARED);
+        for (int spared = 0; spared <= 6; spared++) {
+            BufferLoans x = owingAmongOthers("5:0:20");
+            x.done(0, 20 - spared);
+            int paid = Math.min(spared, 5);
+            EDGES.row("loans with " + spared + " spared", Looks.loans(x), PAID_AMONG_OTHERS[paid]);
+            EDGES.row("days", Looks.days(x, 0), 4 + spared - paid, -spared, 5 - paid, 1, 0, 0, 0);
+        }
+    }
+
+    private static void aheadAmongOthers() {
+        EDGES.about(AHEAD);
+        for (int percent = 0; percent <= 100; percent += 5) {
+            BufferLoans x = owingAmongOthers("5:0:20+20");
+            x.set(2, percent);
+            x.done(0, 20);
+            int paid = percent < 25 ? 0 : percent < 50 ? 1 : percent < 75 ? 2 : percent < 100 ? 3 : 4;
+            EDGES.row("loans with " + percent + " percent of 4", Looks.loans(x), PAID_AMONG_OTHERS[paid]);
+            EDGES.row("days", Looks.days(x, 0), 4 - paid, 0, 5 - paid, 1, 0, 0, 0);
+        }
+    }
+
+    private static void calledAmongOthers() {
+        EDGES.about(TO_CALLED);
+        long[][] due = {
+            {2, 3, 1, 0, 1, 2, 3, 0, 1, 0, 2, 3, 1, 3, 2},
+            {2, 3, 1, 0, 1, 1, 3, 0, 1, 0, 2, 3, 1, 3, 2},
+            {2, 3, 1, 3, 0, 1, 0, 2, 3, 1, 3, 2},
+            {2, 3, 1, 3, 0, 1, 0, 2, 2, 1, 3, 2},
+            {2, 3, 1, 3, 0, 1, 0, 2, 1, 1, 3, 2},
+            {2, 3, 1, 3, 0, 1, 1, 3, 2},
+            {2, 3, 1, 3, 0, 1, 1, 3, 2},
+        };
+        for (int called = 0; called < due.length; called++) {
+            // project 0 has nothing left, is owed 2 and 3, and owes 1
+            BufferLoans x = Checks.desk("5:4:10;5:20:1;5:20:1;5:20:1");
+            x.lend(2, 3, 1);
+            x.lend(0, 1, 2);
+            x.lend(3, 0, 1);
+            x.lend(0, 2, 3);
+            x.lend(1, 3, 2);
+            x.set(1, 100);
+            int most = Math.min(called, 5);
+            // project 3 alone has more left than its buffer: it can lend 2
+            int lent = called - most;
+            x.done(0, 10 + called);
+            EDGES.row("task", Looks.task(x, 0, 0), 10, 10 + called, 0, most, lent, 0);
+            long[] loans = due[called].clone();
+            if (lent > 0) {
+                loans[5] += lent;
+            }
+            EDGES.row("loans with " + called + " called back", Looks.loans(x), loans);
         }
     }
 

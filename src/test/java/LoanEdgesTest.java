@@ -27,6 +27,7 @@ public final class LoanEdgesTest {
         closeRefused();
         closeWithoutLoans();
         paidAtClose();
+        paidAmongOthers();
         writtenOffAtClose();
         othersStay();
         closedForGood();
@@ -385,6 +386,28 @@ public final class LoanEdgesTest {
             EDGES.about(WRITTEN_OFF);
             EDGES.same("loans", x.count(2), 0);
             EDGES.same("days written off", x.count(8), 7 - paid);
+        }
+    }
+
+    private static void paidAmongOthers() {
+        EDGES.about(BACK_AT_CLOSE);
+        for (int left = 0; left <= 6; left++) {
+            // project 0 owes 2 and 3 and is owed 1; other loans stand ahead, between and behind
+            BufferLoans x = Checks.desk("5:6:1;5:20:1;5:20:1;5:20:1");
+            x.lend(3, 2, 1);
+            x.lend(1, 0, 2);
+            x.lend(0, 3, 1);
+            x.lend(2, 0, 3);
+            x.lend(3, 1, 2);
+            x.done(0, 1 + 10 - left);
+            int paid = Math.min(left, 5);
+            EDGES.same("close with " + left + " left", x.close(0), 5 - paid + 1);
+            EDGES.row("loans", Looks.loans(x), 3, 2, 1, 3, 1, 2);
+            EDGES.row("days", Looks.days(x, 0), left - paid, 10 - left, 0, 0, 0, 5 - paid, 1);
+            EDGES.row("first lender", Looks.days(x, 1), 20 + Math.min(paid, 2), 0, 2, 0, 0, 0, Math.max(0, 2 - paid));
+            int second = Math.max(0, paid - 2);
+            EDGES.row("second lender", Looks.days(x, 2), 18 + second, 0, 1, 0, 0, 0, 3 - second);
+            EDGES.row("its borrower", Looks.days(x, 3), 18, 0, 0, 3, 0, 1, 0);
         }
     }
 

@@ -382,6 +382,12 @@ public final class LookEdgesTest {
         x.lend(4, 0, 1);
         lenders(x, 0, 2, 5, 1, 3, 4);
         lenders(x, 2, 5, 1, 3, 4, 0);
+        // project 1 has 40 left and can lend 20, project 2 has 30 left and can lend 25
+        BufferLoans y = Checks.desk("5:20:1;9:40:1;1:10:1");
+        y.set(1, 50);
+        y.set(0, 1);
+        y.lend(0, 2, 20);
+        lenders(y, 0, 2, 1);
     }
 
     private static void lendersByLent() {

@@ -183,6 +183,16 @@ public final class WouldEdgesTest {
         would(owing, 13, 0, 0, 0, 1, 9);
         would(owing, 14, 0, 0, 0, 0, 9);
         would(owing, 0, 0, 0, 0, 5, 0);
+        Supplier<BufferLoans> last = () -> {
+            BufferLoans x = Checks.desk("5:9:1+1+1+1+1+1+1+1;9:20:5");
+            for (int task = 0; task < 7; task++) {
+                x.done(0, 2);
+            }
+            return x;
+        };
+        would(last, 3, 0, 0, 0, 0, 0);
+        would(last, 17, 0, 14, 0, 0, 14);
+        would(last, 18, 1, 14, 0, 0, 14);
     }
 
     // promise 23
