@@ -37,26 +37,18 @@ final class Checks {
         same("digest behind the refused " + what, x.digest(), before);
     }
 
-    /** The call saves one state (of 6 at most), and undo leads back to it. */
+    /** The call saves one state, of fewer than 6, and undo leads back to it. */
     void undoable(BufferLoans x, String what, LongSupplier call, long due) {
-        int saved = Math.min(x.count(9), 5);
-        long before = state(x);
+        int saved = x.count(9);
+        same("fewer than 6 states ahead of " + what, Math.min(saved, 5), saved);
+        long before = x.digest();
         same(what, call.getAsLong(), due);
         same("count(9) behind " + what, x.count(9), saved + 1);
-        long after = state(x);
+        long after = x.digest();
         same("undo of " + what, x.undo(), saved);
-        same("state behind undo of " + what, state(x), before);
+        same("digest behind undo of " + what, x.digest(), before);
         same(what + " again", call.getAsLong(), due);
-        same("state behind " + what + " again", state(x), after);
-    }
-
-    /** A hash of all looks but the saved states. */
-    private static long state(BufferLoans x) {
-        long h = 1;
-        for (int what = 0; what <= 8; what++) {
-            h = mixed(h, x.count(what));
-        }
-        return looks(x, h);
+        same("digest behind " + what + " again", x.digest(), after);
     }
 
     static long mixed(long hash, long... values) {
@@ -69,33 +61,6 @@ final class Checks {
 
     static long bits(double value) {
         return Double.doubleToLongBits(value);
-    }
-
-    /** What the document's digest lists from the settings to the share of late days. */
-    static long looks(BufferLoans x, long hash) {
-        long h = mixed(hash, x.setting(0), x.setting(1), x.setting(2));
-        for (int p = 0; p < x.count(0); p++) {
-            for (int what = 0; what <= 14; what++) {
-                h = mixed(h, x.project(p, what));
-            }
-            for (int t = 0; t < x.project(p, 7); t++) {
-                for (int what = 0; what <= 5; what++) {
-                    h = mixed(h, x.task(p, t, what));
-                }
-            }
-            h = mixed(h, x.lender(p, 0), x.lender(p, 1), x.lender(p, 2), x.bears(p));
-            for (int what = 0; what <= 4; what++) {
-                h = mixed(h, x.ifDone(p, 60, what));
-            }
-            h = mixed(h, x.bestRule(p, 60));
-            for (int q = 0; q < x.count(0); q++) {
-                h = mixed(h, x.owed(p, q));
-            }
-        }
-        for (int place = 0; place < x.count(2); place++) {
-            h = mixed(h, x.loan(place, 0), x.loan(place, 1), x.loan(place, 2));
-        }
-        return mixed(h, x.weakest(), bits(x.lateShare()));
     }
 
     static void type(BufferLoans x, String text) {

@@ -82,7 +82,7 @@ public final class FaceTest {
     }
 
     private static boolean isVisible(Member m) {
-        return !Modifier.isPrivate(m.getModifiers());
+        return !m.isSynthetic() && !Modifier.isPrivate(m.getModifiers());
     }
 
     private static void sameLines(TreeSet<String> got, TreeSet<String> due) {

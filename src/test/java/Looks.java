@@ -47,39 +47,25 @@ final class Looks {
         return new long[] {x.setting(0), x.setting(1), x.setting(2)};
     }
 
-    /** All that undo restores. */
-    static List<Long> ofState(BufferLoans x) {
+    /** What undo restores, but for the projects. */
+    static List<Long> ofDesk(BufferLoans x) {
         List<Long> all = new ArrayList<>();
         for (int what = 0; what <= 8; what++) {
             all.add((long) x.count(what));
         }
         add(all, settings(x));
-        for (int p = 0; p < x.count(0); p++) {
-            addProject(all, x, p);
-        }
         add(all, loans(x));
         add(all, x.weakest(), Checks.bits(x.lateShare()));
         return all;
     }
 
-    /** All that can be seen without a change. */
-    static List<Long> of(BufferLoans x) {
-        List<Long> all = ofState(x);
-        add(all, x.count(9), x.firstError(), x.digest());
-        return all;
-    }
-
-    private static void add(List<Long> all, long... values) {
-        for (long value : values) {
-            all.add(value);
-        }
-    }
-
-    private static void addProject(List<Long> all, BufferLoans x, int p) {
+    /** What undo restores of a project: no more than some 110 calls. */
+    static List<Long> ofProject(BufferLoans x, int p) {
+        List<Long> all = new ArrayList<>();
         for (int what = 0; what <= 14; what++) {
             all.add((long) x.project(p, what));
         }
-        for (int t = 0; t < x.project(p, 7); t++) {
+        for (int t = 0; t < all.get(7); t++) {
             add(all, task(x, p, t));
         }
         add(all, lenders(x, p));
@@ -89,8 +75,15 @@ final class Looks {
             }
         }
         add(all, x.bears(p), x.bestRule(p, 60));
-        for (int q = 0; q < x.count(0); q++) {
+        for (int q = x.count(0) - 1; q >= 0; q--) {
             all.add((long) x.owed(p, q));
+        }
+        return all;
+    }
+
+    private static void add(List<Long> all, long... values) {
+        for (long value : values) {
+            all.add(value);
         }
     }
 }

@@ -11,6 +11,7 @@ public final class ModelTest {
     private final Model model = new Model();
     private final StringBuilder told = new StringBuilder();
     private String waiting = "";
+    private int calls;
 
     private ModelTest(long seed) {
         random = new Random(seed);
@@ -20,13 +21,13 @@ public final class ModelTest {
         long answers = 0;
         for (int run = 0; run < RUNS; run++) {
             ModelTest test = new ModelTest(run);
-            for (int call = 0; call < CALLS; call++) {
+            while (test.calls < CALLS) {
                 if (!test.call()) {
                     System.out.println("run " + run + ":\n" + test.told);
                     System.exit(1);
                 }
-                answers++;
             }
+            answers += test.calls;
         }
         System.out.println("ModelTest: " + answers + " answers as due");
     }
@@ -40,6 +41,11 @@ public final class ModelTest {
     }
 
     private boolean same(String what, LongSupplier got, LongSupplier due) {
+        // an object is used for at most 512 calls
+        if (calls == CALLS) {
+            return true;
+        }
+        calls++;
         String answered = answer(got);
         String wanted = answer(due);
         told.append(what).append(" answered ").append(answered);
@@ -70,7 +76,7 @@ public final class ModelTest {
     }
 
     private int project() {
-        return around(0, Math.max(0, it.count(0) - 1));
+        return around(0, Math.max(0, (int) model.count(0) - 1));
     }
 
     /** Days near to those of the next task, or any. */
@@ -125,7 +131,7 @@ public final class ModelTest {
         if (kind < 6) {
             return same("firstError()", it::firstError, model::firstError);
         }
-        if (kind < 8 || waiting.isEmpty() && it.firstError() > 0 && kind < 30) {
+        if (kind < 8 || waiting.isEmpty() && model.firstError() > 0 && kind < 30) {
             return same("openAll()", it::openAll, model::openAll);
         }
         int code = nextCode();
@@ -199,7 +205,7 @@ public final class ModelTest {
                     () -> it.task(p, task, what), () -> model.task(p, task, what));
             }
             case 2: {
-                int place = around(0, Math.max(0, it.count(2) - 1));
+                int place = around(0, Math.max(0, (int) model.count(2) - 1));
                 int what = around(0, 2);
                 return same("loan(" + place + ", " + what + ")", () -> it.loan(place, what), () -> model.loan(place, what));
             }

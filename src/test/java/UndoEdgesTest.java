@@ -19,10 +19,10 @@ public final class UndoEdgesTest {
 
     private static void nothingSaved() {
         EDGES.about("Throws `IllegalStateException` if there is none");
-        EDGES.refusedIn("undo of a new one", Edges.STATE, new BufferLoans(), new BufferLoans(), BufferLoans::undo);
-        EDGES.refusedIn("undo behind undo", Edges.STATE, undone(1), undone(1), BufferLoans::undo);
-        EDGES.refusedIn("undo behind 6", Edges.STATE, undone(6), undone(6), BufferLoans::undo);
-        EDGES.refusedIn("undo with characters", Edges.STATE, typed(), typed(), BufferLoans::undo);
+        EDGES.refusedIn("undo of a new one", Edges.STATE, BufferLoans::new, BufferLoans::undo);
+        EDGES.refusedIn("undo behind undo", Edges.STATE, () -> undone(1), BufferLoans::undo);
+        EDGES.refusedIn("undo behind 6", Edges.STATE, () -> undone(6), BufferLoans::undo);
+        EDGES.refusedIn("undo with characters", Edges.STATE, UndoEdgesTest::typed, BufferLoans::undo);
         BufferLoans x = undone(6);
         EDGES.same("a call behind it", x.set(2, 9), 50);
         EDGES.same("its undo", x.undo(), 0);
@@ -64,22 +64,23 @@ public final class UndoEdgesTest {
                 EDGES.same("the setting", x.setting(1), call == 0 ? 30 : 50 + call);
                 EDGES.same("count(9)", x.count(9), left);
             }
-            EDGES.refusedIn("undo of no more", Edges.STATE, x, x, BufferLoans::undo);
+            int all = calls;
+            EDGES.refusedIn("undo of no more", Edges.STATE, () -> {
+                BufferLoans y = new BufferLoans();
+                for (int call = 1; call <= all; call++) {
+                    y.set(1, 50 + call);
+                }
+                for (int left = saved; left > 0; left--) {
+                    y.undo();
+                }
+                return y;
+            }, BufferLoans::undo);
         }
     }
 
     private static void oldestDropped() {
         EDGES.about("At most 6 states are saved; the oldest one is dropped first.");
-        BufferLoans x = new BufferLoans();
-        x.open(1, 11);
-        x.open(2, 22);
-        x.lend(0, 1, 5);
-        x.plan(0, 6);
-        x.done(0, 9);
-        x.rank(1, 7);
-        // the next two drop the states ahead of both projects
-        x.set(0, 2);
-        x.payBack(1, 0, 1);
+        BufferLoans x = withDropped();
         for (int left = 5; left >= 0; left--) {
             EDGES.same("states left", x.undo(), left);
         }
@@ -87,7 +88,27 @@ public final class UndoEdgesTest {
         EDGES.same("loans", x.count(2), 0);
         EDGES.same("tasks", x.project(0, 7), 0);
         EDGES.same("rank", x.project(1, 0), 2);
-        EDGES.refusedIn("undo of a dropped one", Edges.STATE, x, x, BufferLoans::undo);
+        EDGES.refusedIn("undo of a dropped one", Edges.STATE, () -> {
+            BufferLoans y = withDropped();
+            for (int call = 0; call < 6; call++) {
+                y.undo();
+            }
+            return y;
+        }, BufferLoans::undo);
+    }
+
+    // the last two calls drop the states ahead of both projects
+    private static BufferLoans withDropped() {
+        BufferLoans x = new BufferLoans();
+        x.open(1, 11);
+        x.open(2, 22);
+        x.lend(0, 1, 5);
+        x.plan(0, 6);
+        x.done(0, 9);
+        x.rank(1, 7);
+        x.set(0, 2);
+        x.payBack(1, 0, 1);
+        return x;
     }
 
     // saves and undoes in rounds of many sizes, so that each place of the saved states is used
@@ -130,7 +151,9 @@ public final class UndoEdgesTest {
         x.append('1');
         x.firstError();
         x.clearBuffer();
-        Looks.of(x);
+        x.digest();
+        Looks.ofDesk(x);
+        Looks.ofProject(x, 1);
         EDGES.same("states saved by others", x.count(9), 1);
         x.set(1, 1);
         x.set(1, 2);

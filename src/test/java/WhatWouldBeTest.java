@@ -1,3 +1,5 @@
+import java.util.function.Supplier;
+
 /** Promises 22 to 27: ifDone, bears, weakest, bestRule, lateShare, digest. */
 public final class WhatWouldBeTest {
     private static final Class<IndexOutOfBoundsException> PLACE = IndexOutOfBoundsException.class;
@@ -151,42 +153,51 @@ public final class WhatWouldBeTest {
         // thirteen values are 0 but for the settings 30 and 50, then come NONE, 0.0 and no characters
         long hash = Checks.mixed(2473, 0, 0, 0, 0, 0, 0, 0, 0, 0, 0, 0, 30, 50, -1, 0, 0);
         CHECKS.same("digest of a new one", x.digest(), hash);
-        Checks.type(x, "12a");
-        CHECKS.same("digest with characters", x.digest(), due(x, "12a"));
-        BufferLoans y = fourProjects();
-        CHECKS.same("digest of four projects", y.digest(), due(y, ""));
-        y.done(0, 200);
-        CHECKS.same("digest with late days", y.digest(), due(y, ""));
-        y.done(2, 2);
-        y.close(2);
-        y.set(0, 2);
-        Checks.type(y, "5:5:5+5;");
-        CHECKS.same("digest with a closed project", y.digest(), due(y, "5:5:5+5;"));
+        digest("characters", () -> {
+            BufferLoans y = new BufferLoans();
+            Checks.type(y, "12a");
+            return y;
+        }, "12a");
+        digest("four projects", WhatWouldBeTest::fourProjects, "");
+        digest("late days", WhatWouldBeTest::withLateDays, "");
+        digest("a closed project", () -> {
+            BufferLoans y = withLateDays();
+            y.done(2, 2);
+            y.close(2);
+            y.set(0, 2);
+            Checks.type(y, "5:5:5+5;");
+            return y;
+        }, "5:5:5+5;");
+    }
+
+    private static BufferLoans withLateDays() {
+        BufferLoans x = fourProjects();
+        x.done(0, 200);
+        return x;
     }
 
     // the bits of many shares, by which the digest tells them
     private static void digestOfShares() {
         for (int delay = 0; delay <= 299; delay += 13) {
             for (int buffer = 0; buffer <= 99; buffer += 11) {
-                BufferLoans x = new BufferLoans();
-                x.open(1, buffer);
-                x.plan(0, 1);
-                x.done(0, 1 + delay);
-                CHECKS.same("digest of " + delay + " days and " + buffer, x.digest(), due(x, ""));
+                int d = delay;
+                int b = buffer;
+                digest(delay + " days and " + buffer, () -> {
+                    BufferLoans x = new BufferLoans();
+                    x.open(1, b);
+                    x.plan(0, 1);
+                    x.done(0, 1 + d);
+                    return x;
+                }, "");
             }
         }
     }
 
-    /** The digest as the document lists it, by the other calls and the characters of the buffer. */
-    private static long due(BufferLoans x, String text) {
-        long h = 2473;
-        for (int what = 0; what <= 9; what++) {
-            h = Checks.mixed(h, x.count(what));
+    private static void digest(String what, Supplier<BufferLoans> make, String text) {
+        long due = 2473;
+        for (long value : Listed.values(make, text)) {
+            due = Checks.mixed(due, value);
         }
-        h = Checks.mixed(Checks.looks(x, h), text.length());
-        for (int i = 0; i < text.length(); i++) {
-            h = Checks.mixed(h, text.charAt(i));
-        }
-        return h;
+        CHECKS.same("digest with " + what, make.get().digest(), due);
     }
 }

@@ -1,5 +1,4 @@
 import java.math.BigInteger;
-import java.util.ArrayList;
 import java.util.List;
 import java.util.function.Supplier;
 
@@ -365,53 +364,6 @@ public final class WouldEdgesTest {
         EDGES.same("digest once more", x.digest(), due);
     }
 
-    private static List<Long> listed(BufferLoans x, String text) {
-        List<Long> v = new ArrayList<>();
-        for (int what = 0; what <= 9; what++) {
-            v.add((long) x.count(what));
-        }
-        for (int setting = 0; setting <= 2; setting++) {
-            v.add((long) x.setting(setting));
-        }
-        for (int p = 0; p < x.count(0); p++) {
-            listedOfProject(v, x, p);
-        }
-        for (int place = 0; place < x.count(2); place++) {
-            for (int what = 0; what <= 2; what++) {
-                v.add((long) x.loan(place, what));
-            }
-        }
-        v.add((long) x.weakest());
-        v.add(Double.doubleToLongBits(x.lateShare()));
-        v.add((long) text.length());
-        for (char code : text.toCharArray()) {
-            v.add((long) code);
-        }
-        return v;
-    }
-
-    private static void listedOfProject(List<Long> v, BufferLoans x, int p) {
-        for (int what = 0; what <= 14; what++) {
-            v.add((long) x.project(p, what));
-        }
-        for (int task = 0; task < x.project(p, 7); task++) {
-            for (int what = 0; what <= 5; what++) {
-                v.add((long) x.task(p, task, what));
-            }
-        }
-        for (int place = 0; place <= 2; place++) {
-            v.add((long) x.lender(p, place));
-        }
-        v.add((long) x.bears(p));
-        for (int what = 0; what <= 4; what++) {
-            v.add((long) x.ifDone(p, 60, what));
-        }
-        v.add((long) x.bestRule(p, 60));
-        for (int q = 0; q < x.count(0); q++) {
-            v.add((long) x.owed(p, q));
-        }
-    }
-
     // the sum without an overflow, of which the last 64 bits are left
     private static long hash(List<Long> values) {
         BigInteger hash = BigInteger.valueOf(2473);
@@ -421,10 +373,12 @@ public final class WouldEdgesTest {
         return hash.longValue();
     }
 
-    private static void digestOverflows() {
-        EDGES.about("the hash becomes 31 * hash + v, in long arithmetic with overflow.");
+    private static void digestOf(String what, Supplier<BufferLoans> make, String text) {
+        EDGES.same("digest of " + what, make.get().digest(), hash(Listed.values(make, text)));
+    }
+
+    private static BufferLoans fullDesk() {
         BufferLoans x = Checks.desk("9:99:1+2+3+4+5+6+7+8;1:0:1+2+3+4+5+6+7+8;5:50:9+9+9+9+9+9");
-        EDGES.same("digest of three projects", x.digest(), hash(listed(x, "")));
         Checks.type(x, "8:88:60+60+60+60+60+60+60+60;7:7:1+1+1+1+1+1+1+1");
         x.openAll();
         x.open(4, 44);
@@ -433,17 +387,35 @@ public final class WouldEdgesTest {
                 x.lend(pair / 6, pair % 6, 1);
             }
         }
-        for (int turn = 0; turn < 16; turn++) {
-            int p = turn % 5;
-            x.done(p, 19 * turn);
-            EDGES.same("digest behind " + turn, x.digest(), hash(listed(x, "")));
+        return x;
+    }
+
+    private static BufferLoans usedDesk(int turns) {
+        BufferLoans x = fullDesk();
+        for (int turn = 0; turn < turns; turn++) {
+            x.done(turn % 5, 19 * turn);
         }
-        x.close(5);
-        x.set(0, 2);
+        return x;
+    }
+
+    private static void digestOverflows() {
+        EDGES.about("the hash becomes 31 * hash + v, in long arithmetic with overflow.");
+        digestOf("one project", made("1:0:1"), "");
+        digestOf("three projects", made("9:99:1+2+3+4+5+6+7+8;1:0:1+2+3+4+5+6+7+8;5:50:9+9+9+9+9+9"), "");
+        for (int turns = 0; turns <= 16; turns++) {
+            int all = turns;
+            digestOf("a full desk behind " + turns, () -> usedDesk(all), "");
+        }
         String text = "!~".repeat(30);
-        Checks.type(x, text);
-        EDGES.same("digest with 60 characters", x.digest(), hash(listed(x, text)));
-        x.set(0, 1);
-        EDGES.same("digest with rule 1", x.digest(), hash(listed(x, text)));
+        for (int rule = 0; rule <= 2; rule++) {
+            int it = rule;
+            digestOf("a closed one, 60 characters and rule " + rule, () -> {
+                BufferLoans x = usedDesk(16);
+                x.close(5);
+                x.set(0, it);
+                Checks.type(x, text);
+                return x;
+            }, text);
+        }
     }
 }
