@@ -160,6 +160,13 @@ public final class LoanEdgesTest {
         for (int p = 0; p < 6; p++) {
             EDGES.same("left of " + p, y.project(p, 2), p == 0 || p == 5 ? 98 : p == 1 || p == 4 ? 100 : 99);
         }
+        EDGES.same("the first loan is paid back", y.payBack(1, 0, 3), 0);
+        EDGES.same("loans", y.count(2), 29);
+        EDGES.same("and comes again, as the last one", y.lend(0, 1, 4), 4);
+        EDGES.same("loans", y.count(2), 30);
+        EDGES.same("the first one", y.loan(0, 0) * 100 + y.loan(0, 1) * 10 + y.loan(0, 2), 22);
+        EDGES.same("the last but one", y.loan(28, 0) * 100 + y.loan(28, 1) * 10 + y.loan(28, 2), 543);
+        EDGES.same("the last one", y.loan(29, 0) * 100 + y.loan(29, 1) * 10 + y.loan(29, 2), 14);
     }
 
     private static void loanOfNoDays() {

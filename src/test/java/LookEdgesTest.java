@@ -29,6 +29,7 @@ public final class LookEdgesTest {
         lendersFollowTheRule();
         countRefused();
         counts();
+        countsOfFullChains();
         countsOfClosedOnes();
         settingRefused();
         EDGES.end("LookEdgesTest");
@@ -457,6 +458,27 @@ public final class LookEdgesTest {
         // project 0 keeps 1
         x.done(1, 15);
         counts(x, 2, 2, 1, 4, 1, 1, 4, 6, 0, 5);
+    }
+
+    private static void countsOfFullChains() {
+        EDGES.about("7: days of delay of all tasks that are done (only those above the plan)");
+        BufferLoans x = Checks.desk("5:0:1+1+1+1+1+1+1+1;5:0:2+2+2+2+2+2+2+2;5:0:3+3+3+3+3+3+3+3");
+        int delay = 0;
+        for (int turn = 0; turn < 24; turn++) {
+            int project = turn * 2 % 3;
+            // in 0 to 23 days, of which 1 to 3 are planned
+            x.done(project, turn);
+            delay += Math.max(0, turn - 1 - project);
+            EDGES.same("days of delay behind " + turn, x.count(7), delay);
+            EDGES.same("tasks that are done behind " + turn, x.count(6), turn + 1);
+        }
+        for (int project = 0; project < 3; project++) {
+            EDGES.same("tasks done of " + project, x.project(project, 8), 8);
+            for (int task = 0; task < 8; task++) {
+                int days = 3 * task + (project * 2) % 3;
+                EDGES.same("task(" + project + ", " + task + ", 1)", x.task(project, task, 1), days);
+            }
+        }
     }
 
     private static void countsOfClosedOnes() {

@@ -14,6 +14,7 @@ public final class TextEdgesTest {
         sixtyCharacters();
         firstNamedOfAppend();
         clearing();
+        clearedForGood();
         whatCanFollow();
         theFirstOne();
         noError();
@@ -99,6 +100,27 @@ public final class TextEdgesTest {
             x.undo();
             EDGES.same("digest behind it", x.digest(), bare);
             EDGES.same("firstError() behind it", x.firstError(), 0);
+        }
+    }
+
+    // a shorter text behind a longer one that was cleared, of which nothing is left
+    private static void clearedForGood() {
+        EDGES.about("Clears the buffer.");
+        String[] before = {"1:0:1;", "1:0:1+", "1:0:1:", "1:0:1x", "1:0:19", "1:0:10;", plans(7), plans(7)};
+        String[] behind = {"1:0:1", "1:0:1", "1:0:1", "1:0:1", "1:0:1", "1:0:10", plans(6), "1:0:1"};
+        int[] projects = {1, 1, 1, 1, 1, 1, 6, 1};
+        for (int i = 0; i < before.length; i++) {
+            String text = before[i];
+            String plan = behind[i];
+            Supplier<BufferLoans> make = () -> {
+                BufferLoans x = typed(text).get();
+                x.clearBuffer();
+                Checks.type(x, plan);
+                return x;
+            };
+            EDGES.looks("firstError() of " + plan, make, BufferLoans::firstError, plan.length());
+            EDGES.undoable("openAll() of " + plan + " behind " + text, make, BufferLoans::openAll, projects[i]);
+            EDGES.same("digest of " + plan + " behind " + text, make.get().digest(), typed(plan).get().digest());
         }
     }
 
