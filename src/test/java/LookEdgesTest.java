@@ -466,16 +466,16 @@ public final class LookEdgesTest {
         int delay = 0;
         for (int turn = 0; turn < 24; turn++) {
             int project = turn * 2 % 3;
-            // in 0 to 23 days, of which 1 to 3 are planned
-            x.done(project, turn);
-            delay += Math.max(0, turn - 1 - project);
+            // in 4 to 27 days, of which 1 to 3 are planned
+            x.done(project, 4 + turn);
+            delay += 4 + turn - (1 + project);
             EDGES.same("days of delay behind " + turn, x.count(7), delay);
             EDGES.same("tasks that are done behind " + turn, x.count(6), turn + 1);
         }
         for (int project = 0; project < 3; project++) {
             EDGES.same("tasks done of " + project, x.project(project, 8), 8);
             for (int task = 0; task < 8; task++) {
-                int days = 3 * task + (project * 2) % 3;
+                int days = 4 + 3 * task + (project * 2) % 3;
                 EDGES.same("task(" + project + ", " + task + ", 1)", x.task(project, task, 1), days);
             }
         }
