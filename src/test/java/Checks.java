@@ -1,4 +1,5 @@
 import java.util.function.LongSupplier;
+import java.util.function.Supplier;
 
 /** Counts the answers that are due and prints every one that is not. */
 final class Checks {
@@ -7,6 +8,22 @@ final class Checks {
 
     void same(String what, long got, long due) {
         if (got == due) {
+            right++;
+        } else {
+            wrong++;
+            System.out.println(what + " answered " + got + ", due is " + due);
+        }
+    }
+
+    /** The answer as it is printed, or the name of the exception. */
+    void answers(String what, String due, Supplier<Object> call) {
+        String got;
+        try {
+            got = String.valueOf(call.get());
+        } catch (RuntimeException e) {
+            got = e.getClass().getSimpleName();
+        }
+        if (got.equals(due)) {
             right++;
         } else {
             wrong++;
